@@ -1497,7 +1497,7 @@ public final class LanternChess {
             pieces = 0;
             told = 0;
             position = 0;
-            nextToken();
+            takeToken();
             takeWord("game");
             int width = takeNumber(LEAST_EDGE, MOST_EDGE);
             int height = takeNumber(LEAST_EDGE, MOST_EDGE);
@@ -1641,8 +1641,8 @@ public final class LanternChess {
 
         private int numberOfToken() {
             int number = 0;
-            for (int i = tokenStart; i < position && i < INPUT_ROOM; i++) {
-                number = 10 * number + text[i] - '0';
+            for (int i = tokenStart; i < position; i++) {
+                number = 10 * number + byteAt(i) - '0';
             }
             return number;
         }
@@ -1667,25 +1667,22 @@ public final class LanternChess {
             }
         }
 
+        /** Takes the token that was looked at, and looks at the next one. */
         private void takeToken() {
             takenStart = tokenStart;
-            nextToken();
-        }
-
-        private void nextToken() {
             while (position < length && (byteAt(position) == ' ' || byteAt(position) == '\n')) {
                 position++;
             }
             tokenStart = position;
             if (position >= length) {
                 tokenKind = END;
-            } else if (isLetter(position)) {
+            } else if (isLetter(byteAt(position))) {
                 tokenKind = WORD;
-                while (position < length && isLetter(position)) {
+                while (position < length && isLetter(byteAt(position))) {
                     position++;
                 }
-            } else if (isDigit(position)) {
-                while (position < length && isDigit(position)) {
+            } else if (isDigit(byteAt(position))) {
+                while (position < length && isDigit(byteAt(position))) {
                     position++;
                 }
                 tokenKind = position - tokenStart > MOST_DIGITS ? NO_TOKEN : NUMBER;
@@ -1699,12 +1696,12 @@ public final class LanternChess {
             return index >= 0 && index < length && index < INPUT_ROOM ? text[index] : NONE;
         }
 
-        private boolean isLetter(int index) {
-            return byteAt(index) >= 'a' && byteAt(index) <= 'z';
+        private static boolean isLetter(int sign) {
+            return sign >= 'a' && sign <= 'z';
         }
 
-        private boolean isDigit(int index) {
-            return byteAt(index) >= '0' && byteAt(index) <= '9';
+        private static boolean isDigit(int sign) {
+            return sign >= '0' && sign <= '9';
         }
     }
 }
