@@ -116,6 +116,7 @@ public final class OutputTest {
         chess.saveState();
         chess.play(2, 0, 3, 1);
         chess.dropFog(0);
+        chess.play(4, 4, 4, 3);
         chess.wind(0, 5);
         chess.resign();
         Checks.type(chess, "game");

@@ -103,6 +103,10 @@ public final class SetupTest {
         Checks.load(chess, "game 5 5;white king 2 0;white rook 0 0;black king 2 4;black rook 4 4;");
         Checks.due("loadGame replaces everything", Checks.state(chess), NEW);
         Checks.due("loadGame leaves the output", Checks.output(chess), "..K..");
+        LanternChess foreseen = Checks.game("game 4 4;white king 0 0;black king 1 1;fog 900 1 1;");
+        Checks.due("what was foretold ahead of loadGame", foreseen.ifPlayed(0, 0, 1, 1, 3), 1);
+        Checks.load(foreseen, "game 5 5;white king 2 0;white rook 0 0;black king 2 4;black rook 4 4;");
+        Checks.due("it is gone behind loadGame", Checks.state(foreseen), NEW);
         Checks.dueThrow("undo behind loadGame", NoSuchElementException.class, chess::undo);
         Checks.dueThrow("restoreState behind loadGame", NoSuchElementException.class, chess::restoreState);
     }
@@ -155,6 +159,7 @@ public final class SetupTest {
     }
 
     private static void errorsOfSettings() {
+        error("game 5 5;bause 1;", 1, 9);
         error("game 5 5;clock 0 5;", 2, 15);
         error("game 5 5;clock 1 0;", 2, 17);
         error("game 5 5;clock 9999 10000;", 1, 20);
@@ -185,6 +190,10 @@ public final class SetupTest {
         error("game 5 5;white 0 0;", 1, 15);
         error("game 5 5;white white king 0 0;", 1, 15);
         error("game 5 5;whiteking 0 0;", 1, 9);
+        error("game 5 5;white pawnz 0 0;", 1, 15);
+        error("game 5 5;white apawn 0 0;", 1, 15);
+        error("game 5 5;white zawn 0 0;", 1, 15);
+        error("game 5 5;white pawm 0 0;", 1, 15);
         error("game 5 5;king 0 0;", 1, 9);
         error("game 5 5;white king 0 0;", 5, 24);
         error("game 5 5;black king 0 0;  ", 5, 26);

@@ -17,6 +17,7 @@ public final class WhatThereIsTest {
         isMove();
         movesInOrder();
         gains();
+        worthOfKings();
         ranked();
         attackers();
         isInCheck();
@@ -142,6 +143,24 @@ public final class WhatThereIsTest {
         Checks.due("gain of black queening", gain(chess, 1, 8, 3), 8);
         Checks.due("gain of taking a pawn", gain(chess, 0, 4, 8), 1);
         Checks.due("gain of nothing", gain(chess, 0, 0, 1), 0);
+    }
+
+    private static void worthOfKings() {
+        String text = "game 4 4;white king 0 0;black king 3 3;white queen 3 0;black rook 0 3;";
+        LanternChess chess = Checks.game(text);
+        Checks.due("white takes the king", chess.ranked(0, 1) + " " + chess.ranked(0, 3), "15 100");
+        Checks.due("white's king is left", chess.ranked(1, 3), 5);
+        Checks.due("black takes the king", worth(chess, 1, 12, 0), 100);
+        Checks.due("black's king is left", worth(chess, 1, 12, 13), -100);
+    }
+
+    private static int worth(LanternChess chess, int side, int from, int to) {
+        for (int i = 0; i < chess.moves(1, side); i++) {
+            if (chess.move(1, side, i, 0) == from && chess.move(1, side, i, 1) == to) {
+                return chess.move(1, side, i, 3);
+            }
+        }
+        return -1000;
     }
 
     private static int gain(LanternChess chess, int side, int from, int to) {
@@ -277,12 +296,14 @@ public final class WhatThereIsTest {
         Checks.dueIndex("move(0, 0, 10, 9)", () -> chess.move(0, 0, 10, 9));
         Checks.dueIndex("move(0, 0, -1, 0)", () -> chess.move(0, 0, -1, 0));
         Checks.dueIndex("move(0, 3, 0, 0)", () -> chess.move(0, 3, 0, 0));
+        Checks.dueIndex("move(2, 0, 0, 0)", () -> chess.move(2, 0, 0, 0));
         Checks.dueArgument("move(0, 0, 0, 4)", () -> chess.move(0, 0, 0, 4));
         Checks.dueArgument("move(0, 0, 0, -1)", () -> chess.move(0, 0, 0, -1));
         Checks.dueIndex("ranked(10, 9)", () -> chess.ranked(10, 9));
         Checks.dueIndex("ranked(-1, 0)", () -> chess.ranked(-1, 0));
         Checks.dueArgument("ranked(0, 4)", () -> chess.ranked(0, 4));
         Checks.dueIndex("attackers(0, 2, 9, 9)", () -> chess.attackers(0, 2, 9, 9));
+        Checks.dueIndex("attackers(2, 0, 0, 0)", () -> chess.attackers(2, 0, 0, 0));
         Checks.dueArgument("attackers(0, 0, 5, 4)", () -> chess.attackers(0, 0, 5, 4));
         Checks.dueIndex("isInCheck(2, 0)", () -> chess.isInCheck(2, 0));
         Checks.dueIndex("isInCheck(0, -1)", () -> chess.isInCheck(0, -1));

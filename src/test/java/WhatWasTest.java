@@ -64,6 +64,8 @@ public final class WhatWasTest {
         LanternChess king = Checks.game("game 4 4;white king 0 0;black king 1 1;");
         king.play(0, 0, 1, 1);
         Checks.due("a king is taken", king.made(0, 3), 0);
+        // The SUM is 6 behind it.
+        Checks.due("the answer to that", king.sent(0, 5), 3);
     }
 
     private static void means() {
@@ -108,6 +110,9 @@ public final class WhatWasTest {
         Checks.due("its end", chess.made(0, 5), endOfThird);
         Checks.due("the fourth begins there", chess.sent(1, 0), endOfThird);
         Checks.due("the latest is told last", chess.made(19, 5), chess.count(2));
+        for (int i = 1; i < 20; i++) {
+            Checks.due("sending " + i + " begins behind the move ahead", chess.sent(i, 0), chess.made(i - 1, 5));
+        }
         Checks.due("the latest one's cells", chess.made(19, 1) + "/" + chess.made(19, 2), "24/19");
         Checks.dueIndex("sent(20, 0)", () -> chess.sent(20, 0));
         Checks.dueIndex("made(20, 0)", () -> chess.made(20, 0));
