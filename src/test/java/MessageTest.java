@@ -138,6 +138,14 @@ public final class MessageTest {
         LanternChess small = Checks.game("game 4 4;white king 3 3;black king 0 0;fog 3 4 1;");
         Checks.due("x of the first cell is hidden", seenOf(small, 3, 3, 3, 2), "104433");
         Checks.due("x of no cell", small.readsAs(3, 3, 3, 2), 0);
+        // With x hidden, x - 1 must not pass for the last cell of the row below.
+        String wide = "game 8 8;white king 0 7;black king 7 7;white bishop 7 0;white rook 0 1;";
+        LanternChess first = Checks.game(wide + "fog 3 1 1;fog 23 1 1;");
+        Checks.due("x of the first cell is 0", seenOf(first, 0, 1, 6, 1), "102726");
+        Checks.due("a first cell left of the board", first.readsAs(0, 1, 6, 1), 0);
+        LanternChess last = Checks.game(wide + "white queen 6 1;fog 16 1 1;fog 23 1 1;");
+        Checks.due("x of the last cell is 0", seenOf(last, 6, 1, 0, 1), "172026");
+        Checks.due("a last cell left of the board", last.readsAs(6, 1, 0, 1), 0);
         LanternChess dark = new LanternChess();
         dark.addFog(0, 999, 1);
         Checks.due("nothing is seen", seenOf(dark, 0, 0, 0, 4), "000000");
