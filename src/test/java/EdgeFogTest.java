@@ -87,45 +87,35 @@ public final class EdgeFogTest {
         return hidden.toString();
     }
 
+    /** What one fog leaves of the ticks from a first one on: a point is hidden, an asterisk is not. */
+    private static void leaves(int from, int lasting, int every, int first, String want) {
+        LanternChess chess = new LanternChess();
+        chess.addFog(from, lasting, every);
+        Checks.due("ticks from " + first + " with the fog " + from + "/" + lasting + "/" + every,
+            ticks(chess, first, first + want.length() - 1), want);
+    }
+
     private static void everyTick() {
         Checks.says("it hides a tick that is not before FROM and before FROM plus LONG, if the tick less FROM is a "
             + "multiple of EVERY.");
-        LanternChess chess = new LanternChess();
-        chess.addFog(20, 5, 1);
-        Checks.due("5 ticks from 20", ticks(chess, 18, 26), "**.....**");
-        LanternChess one = new LanternChess();
-        one.addFog(20, 1, 1);
-        Checks.due("a tick alone", ticks(one, 18, 22), "**.**");
-        LanternChess first = new LanternChess();
-        first.addFog(0, 2, 1);
-        Checks.due("the first ticks of all", ticks(first, 0, 3), "..**");
-        LanternChess last = new LanternChess();
-        last.addFog(9999, 999, 1);
-        Checks.due("the last ticks of all", ticks(last, 9998, 10000) + ticks(last, 10996, 10999), "*..." + ".**");
+        leaves(20, 5, 1, 18, "**.....**");
+        leaves(20, 1, 1, 18, "**.**");
+        leaves(0, 2, 1, 0, "..**");
+        leaves(9999, 999, 1, 9997, "**...");
+        leaves(9999, 999, 1, 10995, "...***");
     }
 
     private static void everySecondTick() {
-        LanternChess odd = new LanternChess();
-        odd.addFog(21, 5, 2);
-        Checks.due("each second one of 5 from 21", ticks(odd, 19, 28), "**.*.*.***");
-        LanternChess even = new LanternChess();
-        even.addFog(21, 6, 2);
-        Checks.due("each second one of 6 from 21", ticks(even, 19, 28), "**.*.*.***");
-        LanternChess seven = new LanternChess();
-        seven.addFog(21, 7, 2);
-        Checks.due("each second one of 7 from 21", ticks(seven, 19, 28), "**.*.*.*.*");
+        leaves(21, 5, 2, 19, "**.*.*.***");
+        leaves(21, 6, 2, 19, "**.*.*.***");
+        leaves(21, 7, 2, 19, "**.*.*.*.*");
     }
 
     private static void rareTicks() {
-        LanternChess nine = new LanternChess();
-        nine.addFog(30, 9, 9);
-        Checks.due("each ninth one of 9 from 30", ticks(nine, 28, 40), "**.**********");
-        LanternChess ten = new LanternChess();
-        ten.addFog(30, 10, 9);
-        Checks.due("each ninth one of 10 from 30", ticks(ten, 28, 40), "**.********.*");
-        LanternChess few = new LanternChess();
-        few.addFog(30, 3, 8);
-        Checks.due("each eighth one of 3 from 30", ticks(few, 28, 40), "**.**********");
+        leaves(30, 9, 9, 28, "**.**********");
+        leaves(30, 10, 9, 28, "**.********.*");
+        leaves(30, 3, 8, 28, "**.**********");
+        leaves(9999, 999, 9, 10980, ".********.*********");
     }
 
     private static void someFog() {
